@@ -1,9 +1,6 @@
 import java.util.Arrays;
 
-/**
- * Finds, for a method of steps, what things may be left open or wrongly handled on its ways out.
- * The promises that the comments name are those of DOC.md.
- */
+/** Finds, for a method of steps, what things may be left open or wrongly handled on its ways out. */
 public final class ResourceEnds {
     public static final int NONE = -1, UNKNOWN = -101, OUTSIDE = -102, STATE = -103, ROOM = -104;
 
@@ -443,11 +440,11 @@ public final class ResourceEnds {
                 case ASK:
                     return arriveAt(things.isHeld(all, steps.ts[step]) ? s : step + 1, all);
                 default:
-                    return fault == NONE ? act(step, all, choice) : throwFrom(step, all);
+                    break;
             }
-        }
-
-        private int act(int step, int all, int choice) {
+            if (fault != NONE) {
+                return throwFrom(step, all);
+            }
             int after = afterDoing(step, all);
             if (choice == 0) {
                 return arriveAt(step + 1, after);
@@ -476,7 +473,7 @@ public final class ResourceEnds {
         }
 
         private int arriveAt(int step, int all) {
-            return nodeOf(steps.has(step) ? step : RETURNED, all);
+            return nodeOf(step < steps.size ? step : RETURNED, all);
         }
     }
 

@@ -321,13 +321,15 @@ public final class ModelTests {
         final int fewThings;
         final int span;
         final boolean wild;
+        final boolean tough;
         boolean wrong = false;
 
         Drawn(long seed) {
             random = new Random(seed);
             fewThings = 1 + random.nextInt(5);
-            span = 1 + random.nextInt(random.nextInt(3) == 0 ? 40 : 12);
+            span = 1 + random.nextInt(random.nextBoolean() ? 40 : 12);
             wild = random.nextInt(4) == 0;
+            tough = random.nextBoolean();
         }
 
         /** A number from a bound's inside, now and then one from its rim or far off. */
@@ -338,16 +340,18 @@ public final class ModelTests {
         }
 
         int code() {
-            int[] codes = {0, 0, 0, 1, 2, 2, 2, 3, 4, 4, 4, 5, 6, 7, 8, 8};
-            return random.nextInt(40) == 0 ? about(9) : codes[random.nextInt(codes.length)];
+            int[] codes = {0, 0, 0, 0, 1, 1, 2, 2, 2, 3, 4, 4, 4, 4, 8, 5, 6, 7, 8};
+            return random.nextInt(40) == 0 ? about(9) : codes[random.nextInt(codes.length - (tough ? 4 : 0))];
         }
 
         int target() {
             return random.nextInt(20) == 0 ? about(40) : random.nextInt(span);
         }
 
-        int handler() {
-            return random.nextInt(3) == 0 ? NONE : target();
+        /** Often the next step, so that a method goes on behind a fault. */
+        int handler(int step) {
+            int choice = random.nextInt(tough ? 8 : 4);
+            return choice == 0 ? NONE : choice == 1 ? target() : 1 + Math.max(0, Math.min(step, 38));
         }
 
         void due(int real, int model, String name, Object... args) {
@@ -372,7 +376,7 @@ public final class ModelTests {
             int t = about(model.things.size());
             int s = target();
             boolean may = random.nextInt(3) == 0;
-            int h = handler();
+            int h = handler(change ? step : model.steps.size());
             if (change) {
                 due(real.change(step, code, t, s, may, h), model.change(step, code, t, s, may, h), "change", step, code, t, s, may, h);
             } else {
@@ -443,8 +447,8 @@ public final class ModelTests {
         }
 
         boolean goes() {
-            for (int i = 0; i < fewThings; i++) thing();
-            for (int i = 0; i < span && !wrong; i++) stepOrChange(false);
+            for (int i = 0; i < 40 && model.things.size() < fewThings && !wrong; i++) thing();
+            for (int i = 0; i < 80 && model.steps.size() < span && !wrong; i++) stepOrChange(false);
             for (int i = 0; i < 60 && !wrong; i++) {
                 int choice = random.nextInt(wild ? 20 : 60);
                 if (choice == 0) thing();
@@ -460,7 +464,7 @@ public final class ModelTests {
     }
 
     public static void main(String[] args) {
-        int runs = args.length > 0 ? Integer.parseInt(args[0]) : 3000;
+        int runs = args.length > 0 ? Integer.parseInt(args[0]) : 5000;
         int wrong = 0;
         long answers = 0;
         long findings = 0;

@@ -57,6 +57,7 @@ public final class PromiseTests {
         closingAgain();
         throwingSteps();
         placesThatThereAreNot();
+        asking();
         waysByChoices();
         refusedFindings();
         closedOrNot();
@@ -70,6 +71,7 @@ public final class PromiseTests {
         counts();
         clearing();
         manyNodes();
+        allNodes();
         System.out.println(asked + " answers, " + wrong + " not as due");
         if (wrong != 0) {
             System.exit(1);
@@ -321,6 +323,15 @@ public final class PromiseTests {
         x.change(3, CLOSE, 0, 0, false, NONE);
         due("2: close goes inwards alone", x.check(), 2);
 
+        ResourceEnds five = new ResourceEnds();
+        for (int thing = 0; thing < 5; thing++) {
+            five.thing(0, false, thing - 1);
+            plain(five, OPEN, thing);
+        }
+        plain(five, CLOSE, 4);
+        due("2: all five are closed", five.check(), 0);
+        due("2: the innermost of five", five.states(40, 0), 4);
+
         ResourceEnds both = new ResourceEnds();
         both.thing(0, true, NONE);
         both.thing(0, false, 0);
@@ -436,6 +447,24 @@ public final class PromiseTests {
         x.change(0, BRANCH, 0, 1, false, NONE);
         x.check();
         due("2: both choices come behind the last", x.nodes(42), 2);
+    }
+
+    private static void asking() {
+        ResourceEnds x = withThings(0, 1);
+        x.step(ASK, 0, 3, true, NONE);
+        plain(x, OPEN, 0);
+        jump(x, GO, 0);
+        plain(x, KEEP, 0);
+        x.step(ASK, 0, 0, true, NONE);
+        x.step(ASK, 1, 8, true, NONE);
+        plain(x, OPEN, 1);
+        jump(x, GO, 5);
+        plain(x, FAIL, 0);
+        due("2: ASK goes on, or to s", x.check(), 1);
+        dueWay("2: ASK goes on, or to s", x, 1, 1, 0, 1, 2, 0, 3, 4, 5, 6, 7, 5, 8);
+        due("3: ASK is one choice", x.nodes(42), 12);
+        due("12: ASK is one choice", x.run(8, 100), 11);
+        due("14: ASK is one choice", x.came(1), 0);
     }
 
     private static void waysByChoices() {
@@ -792,13 +821,36 @@ public final class PromiseTests {
     }
 
     /** Five monitors that are each entered up to three times, in a loop: 1024 states at the loop's head. */
-    private static void manyNodes() {
+    private static ResourceEnds fiveInALoop() {
         ResourceEnds x = withThings(1, 1, 1, 1, 1);
         for (int thing = 0; thing < 5; thing++) {
             jump(x, BRANCH, 2 * thing + 2);
             x.step(OPEN, thing, 0, false, 2 * thing + 2);
         }
         jump(x, BRANCH, 0);
+        return x;
+    }
+
+    private static void allNodes() {
+        ResourceEnds x = fiveInALoop();
+        while (x.count(1) < 38) {
+            jump(x, BRANCH, 39);
+        }
+        plain(x, END, 0);
+        plain(x, FAIL, 0);
+        for (int again = 0; again < 3; again++) {
+            due("5: left both ways, opened again", x.check(), 15);
+            due("10: all that there can be", x.nodes(42), 42 * 1024);
+            for (int step = 0; step < 42; step++) {
+                due("10: all of step " + step, x.nodes(step), 1024);
+                due("9: all of step " + step, x.states(step, again), 15);
+            }
+            x.change(38, END, 0, 0, false, again);
+        }
+    }
+
+    private static void manyNodes() {
+        ResourceEnds x = fiveInALoop();
         while (x.count(1) < 40) {
             plain(x, USE, x.count(1) % 5);
         }
