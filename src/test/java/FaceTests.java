@@ -81,7 +81,7 @@ public final class FaceTests {
         ResourceEnds x = new ResourceEnds();
         long made = threads.getThreadAllocatedBytes(thread);
         fill(x);
-        for (int i = 0; i < 200; i++) {
+        for (int i = 0; i < 150; i++) {
             x.change(39, 1, i % 5, 0, false, ResourceEnds.NONE);
             x.check();
         }

@@ -1,5 +1,6 @@
 import java.util.ArrayList;
 import java.util.Arrays;
+import java.util.Collections;
 import java.util.HashMap;
 import java.util.List;
 import java.util.Map;
@@ -13,6 +14,7 @@ import java.util.TreeMap;
 public final class ModelTests {
     private static final int NONE = -1, UNKNOWN = -101, OUTSIDE = -102, STATE = -103, ROOM = -104;
     private static final int RETURNED = 40, THROWN_OUT = 41;
+    private static final int MOST_CALLS = 512;
 
     private record Thing(int sort, boolean lets, int inner) {
         boolean file() {
@@ -422,28 +424,44 @@ public final class ModelTests {
             }
         }
 
-        /** All that can be asked of what is found, so that one check is looked at whole. */
-        void askAll() {
+        /** As much of what is found as the object's calls are left for, in a drawn order. */
+        void askOfCheck() {
             due(real.check(), model.check(), "check");
-            for (int t = 0; t < model.things.size(); t++) {
-                due(real.closed(t), model.closed(t), "closed", t);
+            List<Runnable> questions = questionsOfCheck();
+            Collections.shuffle(questions, random);
+            for (Runnable question : questions) {
+                if (calls.size() < MOST_CALLS) question.run();
+            }
+        }
+
+        List<Runnable> questionsOfCheck() {
+            List<Runnable> all = new ArrayList<>();
+            for (int thing = 0; thing < model.things.size(); thing++) {
+                int t = thing;
+                all.add(() -> due(real.closed(t), model.closed(t), "closed", t));
                 for (int kind = 0; kind < 5; kind++) {
-                    int length = model.found(kind, t);
-                    due(real.found(kind, t), length, "found", kind, t);
+                    int k = kind;
+                    int length = model.found(k, t);
+                    all.add(() -> due(real.found(k, t), length, "found", k, t));
                     for (int i = 0; i <= length; i++) {
-                        due(real.way(kind, t, i), model.way(kind, t, i), "way", kind, t, i);
+                        int at = i;
+                        all.add(() -> due(real.way(k, t, at), model.way(k, t, at), "way", k, t, at));
                     }
                 }
                 for (int step = 0; step < 42; step++) {
-                    due(real.states(step, t), model.states(step, t), "states", step, t);
+                    int s = step;
+                    all.add(() -> due(real.states(s, t), model.states(s, t), "states", s, t));
                 }
             }
             for (int step = 0; step < 43; step++) {
-                due(real.nodes(step), model.nodes(step), "nodes", step);
+                int s = step;
+                all.add(() -> due(real.nodes(s), model.nodes(s), "nodes", s));
             }
             for (int what = 0; what < 3; what++) {
-                due(real.atOnce(what), model.atOnce(what), "atOnce", what);
+                int w = what;
+                all.add(() -> due(real.atOnce(w), model.atOnce(w), "atOnce", w));
             }
+            return all;
         }
 
         boolean goes() {
@@ -458,7 +476,7 @@ public final class ModelTests {
                 else if (choice == 7 && random.nextInt(4) == 0) due(real.clear(), model.clear(), "clear");
                 else ask();
             }
-            if (!wrong) askAll();
+            if (!wrong) askOfCheck();
             return !wrong;
         }
     }
