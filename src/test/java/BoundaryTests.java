@@ -472,6 +472,8 @@ public final class BoundaryTests {
         x.run(0, 100);
         due(name + ": choices", x.came(1), fault ? 0 : mayThrow);
         due(name + ": what it was then", x.came(2 + t), fault ? row[2] : row[4]);
+        x.run(-1, 100);
+        due(name + ": what it was then, thrown", x.came(2 + t), fault ? row[2] : mayThrow == 1 ? row[5] : row[4]);
     }
 
     /** "A thing is HELD: a FILE that is OPEN, a MONITOR above 0." "ASK t s: to s, if it is HELD, else on." */
@@ -503,6 +505,9 @@ public final class BoundaryTests {
                 }
             }
         }
+        Story again = EMPTY.things(FILE, 1).thing(FILE, true, 0).does(OPEN, 1).does(CLOSE, 1).does(OPEN, 0).does(CLOSE, 1).check();
+        due("closed again, the wrapper lets: nothing", again.ask(x -> x.states(RETURNED, 1)), 4);
+        due("closed again, the inner stays open", again.ask(x -> x.states(RETURNED, 0)), 2);
     }
 
     /** A chain of wrappers, all OPEN but one; the outermost is closed. */
@@ -518,13 +523,14 @@ public final class BoundaryTests {
                 story = story.does(OPEN, within);
             }
         }
-        ResourceEnds x = story.does(CLOSE, size - 1).check().object();
+        ResourceEnds x = story.mayThrow(CLOSE, size - 1, NONE).check().object();
         boolean fault = gap == size - 1 && state != 1;
         for (int thing = 0; thing < size; thing++) {
+            String name = "chain of " + size + ", " + gap + " is " + state + ": " + thing;
             int was = thing == gap ? state : 1;
             boolean closes = !fault && was == 1 && (thing >= gap || state == 1);
-            due("chain of " + size + ", " + gap + " is " + state + ": " + thing,
-                x.states(fault ? THROWN_OUT : RETURNED, thing), 1 << (closes ? 2 : was));
+            due(name + " thrown", x.states(THROWN_OUT, thing), 1 << (closes ? 2 : was));
+            due(name + " done", x.states(RETURNED, thing), fault ? 0 : 1 << (closes ? 2 : was));
         }
     }
 
@@ -856,6 +862,7 @@ public final class BoundaryTests {
     private static void tellingIsRefused(String name, Story story, Teller teller) {
         for (int code : new int[] {LEAST, -2, -1, 9, 10, MOST}) {
             refused(name + ": code " + code, story, OUTSIDE, x -> teller.tell(x, code, 0, 0, false, NONE));
+            refused(name + ": code " + code + " names no thing", story, OUTSIDE, x -> teller.tell(x, code, 5, 0, false, NONE));
         }
         for (int code : new int[] {OPEN, USE, CLOSE, KEEP, ASK}) {
             for (int t : new int[] {LEAST, -2, NONE, 5, MOST}) {
@@ -1113,6 +1120,9 @@ public final class BoundaryTests {
         Story apart = EMPTY.things(FILE, 1).things(MONITOR, 2).does(OPEN, 1).does(OPEN, 1).does(CLOSE, 1).does(CLOSE, 1)
             .does(OPEN, 0).does(KEEP, 0).does(OPEN, 2).does(CLOSE, 2);
         dueAtOnce("never together", apart, 1, 2, 1);
+        Story together = EMPTY.things(FILE, 2).things(MONITOR, 2).does(OPEN, 2).does(OPEN, 3).does(OPEN, 3)
+            .does(OPEN, 0).does(OPEN, 1);
+        dueAtOnce("together", together, 2, 3, 4);
     }
 
     private static void dueAtOnce(String name, Story story, int files, int sum, int held) {
